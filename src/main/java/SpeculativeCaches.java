@@ -585,6 +585,7 @@ public final class SpeculativeCaches {
             position = 0;
             accumulator = 0;
             endTransaction();
+            keptNumber = NONE;
             commitsDone = 0;
             aborts = 0;
         }
@@ -631,7 +632,6 @@ public final class SpeculativeCaches {
 
         private void endTransaction() {
             transaction = NONE;
-            keptNumber = NONE;
             readSet = 0;
             writeSet = 0;
             firstReads = 0;
@@ -643,9 +643,8 @@ public final class SpeculativeCaches {
                     lineStates[line] = INVALID;
                 }
             }
-            int number = transaction;
+            keptNumber = transaction;
             endTransaction();
-            keptNumber = number;
             position = rememberedPosition;
             accumulator = rememberedAccumulator;
             aborts++;
@@ -1035,20 +1034,19 @@ public final class SpeculativeCaches {
             }
         }
 
-        /** Makes a line that is not modified in the cache of the core modified there, and only there. */
+        /**
+         * Makes a line that is not modified in the cache of the core modified there, and only there. The value of the
+         * memory is not fetched, as the write that follows replaces it.
+         */
         private void takeOver(int index, int line) {
             Core core = cores[index];
-            boolean missed = core.lineStates[line] == INVALID;
-            counters[missed ? WRITE_MISSES : UPGRADES]++;
+            counters[core.lineStates[line] == INVALID ? WRITE_MISSES : UPGRADES]++;
             writeBackElsewhere(index, line);
             for (int other = 0; other < coreCount; other++) {
                 if (other != index && cores[other].lineStates[line] != INVALID) {
                     cores[other].lineStates[line] = INVALID;
                     counters[INVALIDATIONS]++;
                 }
-            }
-            if (missed) {
-                core.lineValues[line] = memoryValues[line];
             }
             core.lineStates[line] = MODIFIED;
         }

@@ -6,6 +6,7 @@ public final class ProgramTest {
         loadTakesProgram();
         loadTellsSyntaxErrors();
         loadOfLongTexts();
+        loadAfterAnError();
         loadRefuses();
         loadGivesNumberUp();
         again();
@@ -105,6 +106,17 @@ public final class ProgramTest {
 
     private static void dueLoad(String text, long want) {
         Check.due("load of '" + text + "'", Check.load(new SpeculativeCaches(), 1, text), want);
+    }
+
+    private static void loadAfterAnError() {
+        SpeculativeCaches x = new SpeculativeCaches();
+        Check.load(x, 0, "a9;c;");
+        Check.due("an error", Check.load(x, 0, "b;a-5"), -15);
+        Check.due("the program stays", x.core(0, 2), 2);
+        Check.due("the rest of the text", Check.load(x, 1, "5;"), -10);
+        Check.due("no error", Check.load(x, 0, "a5;"), 1);
+        x.step(0);
+        Check.due("it adds 5", x.core(0, 0), 5);
     }
 
     private static void loadRefuses() {

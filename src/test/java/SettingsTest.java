@@ -2,7 +2,9 @@
 public final class SettingsTest {
     public static void main(String[] args) {
         newObject();
+        firstTransaction();
         beginAnew();
+        beginGivesNumbersUp();
         beginKeepsTextAndSeed();
         beginRefuses();
         setPolicy();
@@ -44,6 +46,26 @@ public final class SettingsTest {
         Check.due("new s", x.seed(7), 1);
     }
 
+    private static void firstTransaction() {
+        SpeculativeCaches x = new SpeculativeCaches();
+        Check.load(x, 1, "b;c;");
+        x.step(1);
+        Check.due("the first number", x.core(1, 3), 0);
+        Check.due("one number", x.value(4), 1);
+    }
+
+    private static void beginGivesNumbersUp() {
+        SpeculativeCaches x = Check.with(0, 4, "b;r0;c;", "b;r0;c;");
+        Check.steps(x, 1, 2);
+        Check.steps(x, 0, 2);
+        Check.due("both are aborted", x.poke(0, 1), 2);
+        x.begin(2, 0, 4);
+        Check.load(x, 0, "b;c;");
+        x.step(0);
+        Check.due("the first number after begin", x.core(0, 3), 0);
+        Check.due("one number after begin", x.value(4), 1);
+    }
+
     private static void beginAnew() {
         SpeculativeCaches x = Check.with(1, 2, "a3;w0;b;r1;w1;c;b;w2;r0;", "b;r0;w3;w4;w5;");
         Check.steps(x, 0, 9);
@@ -52,11 +74,10 @@ public final class SettingsTest {
         long before = x.digest();
         Check.due("commits before begin", x.commits(), 3);
         Check.due("begin(4, 2, 8)", x.begin(4, 2, 8), 3);
-        SpeculativeCaches fresh = new SpeculativeCaches();
-        fresh.begin(4, 2, 8);
+        long[] coreFacts = {0, 0, 0, -1, 0, 0};
         for (int core = 0; core < 4; core++) {
             for (int what = 0; what < 6; what++) {
-                Check.due("core after begin", x.core(core, what), fresh.core(core, what));
+                Check.due("core after begin", x.core(core, what), coreFacts[what]);
             }
             Check.due("read set after begin", x.set(core, false), 0);
             Check.due("write set after begin", x.set(core, true), 0);

@@ -7,6 +7,9 @@ public final class StateTest {
         whatIsNotSaved();
         undoRestoresAll();
         undoThenOtherWay();
+        undoRestoresWhatIsRemembered();
+        undoRestoresFirstReads();
+        undoRestoresTheLog();
         digestOfANewObject();
         digestLikeTheDocument();
         digestTellsApart();
@@ -140,6 +143,63 @@ public final class StateTest {
         Check.due("the transaction is back", x.set(0, false), 1);
         x.step(0);
         Check.due("it commits", x.core(0, 4), 1);
+    }
+
+    private static void undoRestoresWhatIsRemembered() {
+        SpeculativeCaches x = Check.with(0, 4, "a3;b;r0;c;a4;b;r0;c;");
+        Check.steps(x, 0, 3);
+        x.step(0);
+        x.step(0);
+        x.step(0);
+        for (int i = 2; i >= 0; i--) {
+            Check.due("undo", x.undo(), i + 1);
+        }
+        Check.due("abort", x.poke(0, 5), 1);
+        Check.due("the remembered position", x.core(0, 1), 1);
+        Check.due("the remembered accumulator", x.core(0, 0), 3);
+    }
+
+    private static void undoRestoresFirstReads() {
+        SpeculativeCaches x = Check.with(0, 4, "b;r0;c;b;r1;c;");
+        x.poke(0, 5);
+        Check.steps(x, 0, 2);
+        Check.steps(x, 0, 3);
+        x.undo();
+        x.undo();
+        x.undo();
+        x.step(0);
+        Check.due("the first reads", x.commit(1, 2), 1);
+        Check.due("the value", x.commitValue(1, 0, false), 5);
+        x = Check.with(0, 4, "b;r0;c;");
+        x.poke(0, 5);
+        Check.steps(x, 0, 2);
+        x.poke(0, 6);
+        Check.steps(x, 0, 2);
+        x.undo();
+        x.undo();
+        x.undo();
+        x.step(0);
+        Check.due("the first value that it had", x.commitValue(1, 0, false), 5);
+    }
+
+    private static void undoRestoresTheLog() {
+        SpeculativeCaches x = Check.with(0, 4, "b;r0;w1;c;");
+        x.poke(0, 5);
+        Check.steps(x, 0, 4);
+        x.begin(3, 0, 4);
+        x.poke(2, 1);
+        x.poke(3, 2);
+        x.poke(4, 3);
+        for (int i = 3; i >= 0; i--) {
+            Check.due("undo", x.undo(), i);
+        }
+        long[] due = {0, 0, 1, 2};
+        for (int what = 0; what < 4; what++) {
+            Check.due("commit(1, " + what + ")", x.commit(1, what), due[what]);
+        }
+        Check.due("its read", x.commitValue(1, 0, false), 5);
+        Check.due("its written value", x.commitValue(1, 1, true), 5);
+        Check.due("the poke before", x.commit(0, 0) * 100 + x.commitValue(0, 0, true), -95);
     }
 
     private static long documented(SpeculativeCaches x, int length, int s, int saved) {

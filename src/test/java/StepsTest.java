@@ -5,6 +5,7 @@ public final class StepsTest {
         nestedBegin();
         commitWithout();
         abortRestores();
+        keptNumberIsUsedOnce();
         readConflicts();
         writeConflicts();
         outsiderWins();
@@ -100,6 +101,22 @@ public final class StepsTest {
         Check.due("read lines stay", x.state(0, 2), 1);
         Check.due("aborts by conflicts", x.counter(5), 2);
         Check.due("numbers", x.value(4), 2);
+    }
+
+    private static void keptNumberIsUsedOnce() {
+        SpeculativeCaches x = Check.with(0, 4, "b;r0;c;b;c;");
+        Check.steps(x, 0, 2);
+        x.poke(0, 1);
+        Check.steps(x, 0, 3);
+        Check.due("one number", x.value(4), 1);
+        x.step(0);
+        Check.due("the next transaction", x.core(0, 3), 1);
+        Check.due("two numbers", x.value(4), 2);
+        Check.due("an empty read set", x.poke(0, 2), 0);
+        x.step(0);
+        x.again(0);
+        x.step(0);
+        Check.due("the third transaction", x.core(0, 3), 2);
     }
 
     private static void readConflicts() {

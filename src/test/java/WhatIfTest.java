@@ -5,6 +5,7 @@ public final class WhatIfTest {
     public static void main(String[] args) {
         finishCounts();
         finishLimit();
+        finishAtTheLimit();
         likeRunning();
         bestPolicy();
         refusals();
@@ -35,6 +36,24 @@ public final class WhatIfTest {
         Check.due("aborts of 3 steps", x.abortsWith(0, 3), 1);
         Check.due("aborts of 1000 steps", x.abortsWith(2, 1000), 333);
         Check.due("nothing aborted", x.counter(6) + x.core(0, 5), 0);
+    }
+
+    /** Four cores that abort one another until one is lucky: with these seeds 2000 and 2001 steps. */
+    private static void finishAtTheLimit() {
+        String unlucky = "b;r0;r1;r2;r3;w0;w1;a1;a1;a1;c;";
+        SpeculativeCaches x = Check.with(0, 4, unlucky, unlucky, unlucky, unlucky);
+        x.seed(1377);
+        Check.due("2000 are enough", x.finish(0), 2000);
+        x.run(1000);
+        Check.due("1000 later", x.finish(0), 1000);
+        Check.due("999 more are not enough", x.run(999) < 4, true);
+        Check.due("one left", x.finish(0), 1);
+        Check.due("the last one", x.run(1), 4);
+        x = Check.with(0, 4, unlucky, unlucky, unlucky, unlucky);
+        x.seed(260);
+        Check.due("2000 are not enough", x.finish(0), -1);
+        x.run(1);
+        Check.due("2000 are enough after one", x.finish(0), 2000);
     }
 
     private static int runUntilFinished(SpeculativeCaches x, int policy) {
