@@ -12,22 +12,15 @@ public final class LogTest {
         Check.end();
     }
 
-    private static void entry(SpeculativeCaches x, int commit, int core, int transaction, int reads, int writes) {
-        Check.due("core of " + commit, x.commit(commit, 0), core);
-        Check.due("transaction of " + commit, x.commit(commit, 1), transaction);
-        Check.due("first reads of " + commit, x.commit(commit, 2), reads);
-        Check.due("writes of " + commit, x.commit(commit, 3), writes);
-    }
-
     private static void transactions() {
         SpeculativeCaches x = Check.with(0, 4, "b;b;c;b;a2;w0;r1;a5;w0;w6;c;", "b;r0;c;");
         x.poke(1, 10);
         Check.due("commits", x.commits(), 1);
         Check.steps(x, 0, 3);
         Check.due("an empty transaction is logged", x.commits(), 2);
-        entry(x, 1, 0, 0, 0, 0);
+        Check.dueEntry(x, 1, 0, 0, 0, 0);
         Check.steps(x, 0, 8);
-        entry(x, 2, 0, 1, 2, 65);
+        Check.dueEntry(x, 2, 0, 1, 2, 65);
         Check.due("the final value", x.commitValue(2, 0, true), 15);
         Check.due("another final value", x.commitValue(2, 6, true), 15);
         Check.due("a first read", x.commitValue(2, 1, false), 10);
@@ -35,7 +28,7 @@ public final class LogTest {
         Check.due("no written value", x.commitValue(2, 1, true), 0);
         Check.due("no value at all", x.commitValue(2, 7, true) + x.commitValue(2, 7, false), 0);
         Check.steps(x, 1, 3);
-        entry(x, 3, 1, 2, 1, 0);
+        Check.dueEntry(x, 3, 1, 2, 1, 0);
         Check.due("it has read the commit", x.commitValue(3, 0, false), 15);
         Check.due("commits", x.commits(), 4);
         Check.due("serializable", x.serializable(), true);
@@ -47,7 +40,7 @@ public final class LogTest {
         x.poke(1, 6);
         x.poke(2, 7);
         Check.steps(x, 0, 12);
-        entry(x, 3, 0, 0, 5, 7);
+        Check.dueEntry(x, 3, 0, 0, 5, 7);
         Check.due("first read of 0", x.commitValue(3, 0, false), 5);
         Check.due("1 was written first", x.commitValue(3, 1, false), 0);
         Check.due("first read of 2", x.commitValue(3, 2, false), 7);
@@ -63,15 +56,15 @@ public final class LogTest {
         Check.due("a read outside of a transaction", x.commits(), 0);
         Check.steps(x, 0, 3);
         Check.due("a write outside of a transaction", x.commits(), 1);
-        entry(x, 0, 0, -1, 0, 8);
+        Check.dueEntry(x, 0, 0, -1, 0, 8);
         Check.due("its value", x.commitValue(0, 3, true), 4);
         Check.due("its read", x.commitValue(0, 3, false), 0);
         Check.due("not a commit of the core", x.core(0, 4), 0);
         x.poke(2, -9);
-        entry(x, 1, -1, -1, 0, 4);
+        Check.dueEntry(x, 1, -1, -1, 0, 4);
         Check.due("the poked value", x.commitValue(1, 2, true), -9);
         Check.steps(x, 1, 3);
-        entry(x, 3, 1, -1, 0, 8);
+        Check.dueEntry(x, 3, 1, -1, 0, 8);
         Check.due("each write is logged", x.commits(), 4);
         Check.due("poke of the same value", x.poke(2, -9), 0);
         Check.due("each poke is logged", x.commits(), 5);
@@ -84,7 +77,7 @@ public final class LogTest {
         x.poke(0, 8);
         Check.due("only the poke", x.commits(), 1);
         Check.steps(x, 0, 5);
-        entry(x, 1, 0, 0, 3, 4);
+        Check.dueEntry(x, 1, 0, 0, 3, 4);
         Check.due("the read after the abort", x.commitValue(1, 0, false), 8);
         Check.due("serializable", x.serializable(), true);
     }
@@ -96,7 +89,7 @@ public final class LogTest {
         x.begin(2, 0, 4);
         x.poke(5, 1);
         x.poke(6, 1);
-        entry(x, 1, -1, -1, 0, 64);
+        Check.dueEntry(x, 1, -1, -1, 0, 64);
         for (int line = 0; line < 8; line++) {
             Check.due("an old read", x.commitValue(1, line, false), 0);
             Check.due("an old write", x.commitValue(1, line, true), line == 6 ? 1 : 0);
@@ -104,7 +97,7 @@ public final class LogTest {
         x.undo();
         x.undo();
         x.undo();
-        entry(x, 1, 0, 0, 3, 12);
+        Check.dueEntry(x, 1, 0, 0, 3, 12);
         Check.due("the log after undo", x.commitValue(1, 2, true), 9);
         Check.due("commits after undo", x.commits(), 2);
     }
@@ -118,8 +111,8 @@ public final class LogTest {
         }
         // Each round logs 10 writes and 3 transactions: 30 rounds log 390, the 31st is cut after its writes.
         Check.due("a full log", x.commits(), 400);
-        entry(x, 389, 1, 89, 0, 4);
-        entry(x, 399, 1, -1, 0, 1);
+        Check.dueEntry(x, 389, 1, 89, 0, 4);
+        Check.dueEntry(x, 399, 1, -1, 0, 1);
         // A round begins with the value that line 0 got last: 9 more than the round before.
         Check.due("the last value", x.commitValue(399, 0, true), 30 * 9 + 9);
         Check.due("commits beyond are done", x.core(1, 4), 93);

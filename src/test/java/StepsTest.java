@@ -27,11 +27,6 @@ public final class StepsTest {
         Check.end();
     }
 
-    private static void sets(SpeculativeCaches x, int core, int reads, int writes) {
-        Check.due("read set of " + core, x.set(core, false), reads);
-        Check.due("write set of " + core, x.set(core, true), writes);
-    }
-
     private static void instructions() {
         SpeculativeCaches x = Check.with(0, 4, "a5;w1;a-7;r1;b;r2;w3;r3;c;");
         Check.due("step", x.step(0), 0);
@@ -41,23 +36,23 @@ public final class StepsTest {
         Check.due("add a negative", x.core(0, 0), -2);
         x.step(0);
         Check.due("read", x.core(0, 0), 5);
-        sets(x, 0, 0, 0);
+        Check.dueSets(x, 0, 0, 0);
         x.step(0);
         Check.due("a transaction", x.core(0, 3), 0);
         x.step(0);
-        sets(x, 0, 4, 0);
+        Check.dueSets(x, 0, 4, 0);
         x.step(0);
-        sets(x, 0, 4, 8);
+        Check.dueSets(x, 0, 4, 8);
         x.step(0);
-        sets(x, 0, 12, 8);
+        Check.dueSets(x, 0, 12, 8);
         x.step(0);
-        sets(x, 0, 0, 0);
+        Check.dueSets(x, 0, 0, 0);
         Check.due("no transaction", x.core(0, 3), -1);
         Check.due("one commit", x.core(0, 4), 1);
         Check.due("finished", x.core(0, 1), 9);
         Check.due("steps", x.counter(7), 9);
         x.undo();
-        sets(x, 0, 12, 8);
+        Check.dueSets(x, 0, 12, 8);
         Check.due("steps after undo", x.counter(7), 8);
     }
 
@@ -96,7 +91,7 @@ public final class StepsTest {
         Check.due("the holder is aborted", x.step(1), 1);
         Check.due("position of the holder", x.core(0, 1), 0);
         Check.due("accumulator of the holder", x.core(0, 0), 0);
-        sets(x, 0, 0, 0);
+        Check.dueSets(x, 0, 0, 0);
         Check.due("written lines are invalid", x.state(0, 0) + x.state(0, 1), 0);
         Check.due("read lines stay", x.state(0, 2), 1);
         Check.due("aborts by conflicts", x.counter(5), 2);
@@ -125,8 +120,8 @@ public final class StepsTest {
         x.step(1);
         Check.due("read of a read line", x.step(1), 0);
         Check.due("read of a written line", x.step(1), 1);
-        sets(x, 0, 0, 0);
-        sets(x, 1, 3, 0);
+        Check.dueSets(x, 0, 0, 0);
+        Check.dueSets(x, 1, 3, 0);
         Check.due("the value before", x.core(1, 0), 0);
     }
 
@@ -139,7 +134,7 @@ public final class StepsTest {
         Check.due("its written line is invalid", x.state(1, 2), 0);
         x.step(2);
         Check.due("write of a written line", x.step(2), 9);
-        sets(x, 0, 1, 2);
+        Check.dueSets(x, 0, 1, 2);
         Check.due("the line stays", x.cached(0, 1), 1);
     }
 
@@ -227,11 +222,11 @@ public final class StepsTest {
         Check.due("a line from before stays", x.cached(0, 5), 6);
         x = Check.with(0, 8, "b;w0;w1;w2;w3;w4;w5;w6;w7;c;");
         Check.steps(x, 0, 9);
-        sets(x, 0, 0, 255);
+        Check.dueSets(x, 0, 0, 255);
         Check.due("a full set commits", x.step(0), 0);
         x = Check.with(0, 3, "w0;w1;w2;w3;b;w0;w1;w2;w3;");
         Check.steps(x, 0, 8);
-        sets(x, 0, 0, 7);
+        Check.dueSets(x, 0, 0, 7);
         Check.due("a fourth line of three", x.step(0), 9);
         Check.due("a modified line stays", x.state(0, 3), 2);
         x = new SpeculativeCaches();

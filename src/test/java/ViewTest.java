@@ -8,7 +8,6 @@ public final class ViewTest {
         value();
         counter();
         refusals();
-        nothingIsSaved();
         Check.end();
     }
 
@@ -157,17 +156,5 @@ public final class ViewTest {
         }
         Check.dueIllegal(x, "core(0, 6)", () -> x.core(0, 6));
         Check.dueIllegal(x, "value(5)", () -> x.value(5));
-    }
-
-    private static void nothingIsSaved() {
-        SpeculativeCaches x = new SpeculativeCaches();
-        x.state(0, 0);
-        x.cached(0, 0);
-        x.memory(0, true);
-        x.set(0, true);
-        x.core(0, 0);
-        x.value(0);
-        x.counter(0);
-        Check.due("saved by looking", Check.savedStates(x), 0);
     }
 }

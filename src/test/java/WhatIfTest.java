@@ -112,7 +112,8 @@ public final class WhatIfTest {
             int best = x.bestPolicy();
             seen[best] = true;
             for (int policy = 0; policy < 3; policy++) {
-                boolean fine = x.finish(best) < x.finish(policy) || x.finish(best) == x.finish(policy) && best <= policy;
+                int more = x.finish(policy) - x.finish(best);
+                boolean fine = more > 0 || more == 0 && best <= policy;
                 Check.due("bestPolicy is the best", fine, true);
             }
         }
