@@ -7,6 +7,9 @@ public final class TransactionEdgesTest {
         coresAndLines();
         additionsWrapAround();
         additionsWrapAroundInTransactions();
+        initiallyZeros();
+        initiallyInvalid();
+        initiallyAtTheStart();
         initiallyNoInstructions();
         atMostThirtyInstructions();
         finishedAtTheEnd();
@@ -29,7 +32,10 @@ public final class TransactionEdgesTest {
         noConflictWithItself();
         ascendingOrder();
         noTransactionWinsAlways();
+        requesterWinsBothWays();
+        holderWinsBothWays();
         byNumberBothWays();
+        policyOfTheMoment();
         requesterAbortedAtTheFirst();
         nothingElseAfterOwnAbort();
         capacityAfterConflicts();
@@ -71,6 +77,43 @@ public final class TransactionEdgesTest {
         Check.steps(x, 0, 5);
         Check.due("first read", x.commitValue(1, 0, false), Integer.MIN_VALUE);
         Check.due("final value", x.commitValue(1, 0, true), Integer.MAX_VALUE);
+    }
+
+    private static void initiallyZeros() {
+        Check.sentence("The memory has a value for each line, initially 0");
+        for (int line = 0; line < 8; line++) {
+            SpeculativeCaches x = new SpeculativeCaches();
+            Check.due("memory", x.memory(line, false), 0);
+            Check.due("committed", x.memory(line, true), 0);
+            Check.load(x, 1, "a9;r" + line + ";");
+            Check.steps(x, 1, 2);
+            Check.due("what is read", x.core(1, 0), 0);
+        }
+    }
+
+    private static void initiallyInvalid() {
+        Check.sentence("Each core has a cache in which each line is in a state: 0 invalid (initially)");
+        SpeculativeCaches x = new SpeculativeCaches();
+        for (int core = 0; core < 2; core++) {
+            for (int line = 0; line < 8; line++) {
+                Check.due("state", x.state(core, line), 0);
+                Check.due("cached", x.cached(core, line), 0);
+            }
+        }
+        Check.load(x, 0, "r0;w7;");
+        Check.steps(x, 0, 2);
+        Check.due("both are misses", x.counter(0) * 10 + x.counter(1), 11);
+    }
+
+    private static void initiallyAtTheStart() {
+        Check.sentence("A core has an accumulator, initially 0, and a position in its program, initially 0");
+        SpeculativeCaches x = new SpeculativeCaches();
+        for (int core = 0; core < 2; core++) {
+            Check.due("accumulator and position", x.core(core, 0) | x.core(core, 1), 0);
+        }
+        Check.load(x, 1, "w3;a1;");
+        x.step(1);
+        Check.due("the first instruction writes 0", x.state(1, 3) * 10 + x.cached(1, 3), 20);
     }
 
     private static void initiallyNoInstructions() {
@@ -377,18 +420,60 @@ public final class TransactionEdgesTest {
         }
     }
 
+    /** Cores 0 and 1 write line 0: the first has the lower number, the requester writes second. Returns its answer. */
+    private static int fight(SpeculativeCaches x, int first, int requester) {
+        x.step(first);
+        x.step(1 - first);
+        x.step(1 - requester);
+        return x.step(requester);
+    }
+
+    private static void requesterWinsBothWays() {
+        Check.sentence("0 (requester wins) the other transaction is aborted");
+        for (int first = 0; first < 2; first++) {
+            for (int requester = 0; requester < 2; requester++) {
+                SpeculativeCaches x = Check.with(0, 4, "b;w0;", "b;w0;");
+                Check.due("step", fight(x, first, requester), 1);
+                Check.due("the requester", x.core(requester, 3), requester == first ? 0 : 1);
+                Check.due("the holder", x.core(1 - requester, 3), -1);
+            }
+        }
+    }
+
+    private static void holderWinsBothWays() {
+        Check.sentence("1 (holder wins) the transaction of the requester is aborted");
+        for (int first = 0; first < 2; first++) {
+            for (int requester = 0; requester < 2; requester++) {
+                SpeculativeCaches x = Check.with(1, 4, "b;w0;", "b;w0;");
+                Check.due("step", fight(x, first, requester), 9);
+                Check.due("the requester", x.core(requester, 3), -1);
+                Check.due("the holder", x.core(1 - requester, 3), requester == first ? 1 : 0);
+            }
+        }
+    }
+
     private static void byNumberBothWays() {
         Check.sentence("2 (by number) the one with the greater number is aborted");
         for (int first = 0; first < 2; first++) {
             for (int requester = 0; requester < 2; requester++) {
                 SpeculativeCaches x = Check.with(2, 4, "b;w0;", "b;w0;");
-                x.step(first);
-                x.step(1 - first);
-                x.step(1 - requester);
-                Check.due("step", x.step(requester), requester == first ? 1 : 9);
+                Check.due("step", fight(x, first, requester), requester == first ? 1 : 9);
                 Check.due("the lower number", x.core(first, 3), 0);
                 Check.due("the greater number", x.core(1 - first, 3), -1);
             }
+        }
+    }
+
+    private static void policyOfTheMoment() {
+        Check.sentence("Otherwise, by the policy", "the one that is set when the step is done");
+        SpeculativeCaches x = Check.with(0, 4, "b;r0;", "b;w0;");
+        x.step(1);
+        Check.steps(x, 0, 2);
+        int[] due = {1, 9, 1};
+        for (int policy = 0; policy < 3; policy++) {
+            x.setPolicy(policy);
+            Check.due("step under policy " + policy, x.step(1), due[policy]);
+            x.undo();
         }
     }
 
